@@ -32,6 +32,11 @@ public final class BottleTest {
         Due.due("three are MISSING", x.count(3), 3);
         Due.due("a BOTTLE", x.count(1), 1);
 
+        Due.due("the PLACE farthest to the west", x.fill(0, 0, 0, Due.set(0)), 1);
+        Due.due("is MISSING", x.ofPlace(0, 1), 12);
+        x.land(12, 1, 1);
+        Due.due("one that is MISSING for one DAY more", x.fill(0, 0, 1, Due.set(12)), Due.STATE);
+
         BottledViews y = Due.bowl(10);
         y.village(10);
         y.days(40);
@@ -193,6 +198,12 @@ public final class BottleTest {
         x.days(3);
         Due.due("an OPEN one doesn't age", x.ofBottle(0, 4), 0);
         Due.due("the other two grew", x.count(3), 1);
+
+        BottledViews ends = bottled(0, 0, Due.set(0));
+        ends.days(11);
+        Due.due("MISSING for one DAY more", ends.ofPlace(0, 1), 1);
+        Due.due("the PLACE farthest to the west", ends.open(0), 1);
+        Due.due("is there", ends.ofPlace(0, 1), 0);
 
         BottledViews cut = bottled(23, 1, Due.set(11, 12));
         cut.land(3, 1, 50);

@@ -58,6 +58,11 @@ public final class LandTest {
         Due.due("VIEW west", x.ofPlace(10, 2), 1023 & ~16);
         Due.due("VIEW east", x.ofPlace(10, 3), ALL & ~2047);
         Due.due("SIGHTS", x.ofPlace(10, 4), 18);
+        x.land(4, 1, 1);
+        x.land(16, 1, 1);
+        Due.due("VIEW west, MISSING for one DAY", x.ofPlace(10, 2), 1023 & ~16);
+        Due.due("VIEW east, MISSING for one DAY", x.ofPlace(10, 3), ALL & ~2047 & ~Due.set(16));
+        Due.due("SIGHTS, MISSING for one DAY", x.ofPlace(10, 4), 17);
         Due.due("no VILLAGES", x.ofPlace(10, 5), 0);
         x.village(10);
         x.village(3);

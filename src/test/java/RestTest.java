@@ -53,6 +53,7 @@ public final class RestTest {
                 Due.due("KIND " + kind + " voice " + act, x.voice(2, act, 4), want[kind][act]);
             }
         }
+        Due.due("VINTAGE ages: 2 ^ 2", x.voice(2, 2, 3), 0);
         x.become(2, 0);
         Due.due("ints go round", x.voice(2, 0, Integer.MAX_VALUE), Integer.MIN_VALUE + 1);
         Due.due("bottle 3", x.voice(3, 0, 0), Due.BEYOND);
@@ -280,12 +281,23 @@ public final class RestTest {
         Due.due("its bytes", x.text(0), 1);
         Due.due("h+1", x.law(0, 7, 0, 0), 8);
         Due.due("numbers that wait", x.count(7), 1);
+        x.check();
+        x.tell(9);
+        x.restore();
+        Due.due("the number itself: 8 are not MISSING behind a DAY", x.check(), 1);
+        x.tell(1);
+        x.image();
+        x.check();
+        x.tell(9);
+        x.restore();
+        Due.due("the number itself: 1 is MISSING behind a DAY", x.check(), 0);
+        Due.due("all this", x.count(2), 4);
 
         x.days(3);
         Due.due("it stays", x.restore(), 4);
         Due.due("GROWS once more", x.law(0, 0, 0, 0), 11);
         x.days(3);
-        Due.due("twice", x.image(), 2);
+        Due.due("a third time", x.image(), 3);
         x.days(3);
         Due.due("in place of the one ahead", x.restore(), 7);
     }

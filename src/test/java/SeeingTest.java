@@ -88,6 +88,10 @@ public final class SeeingTest {
         Due.due("loose above 9999", x.loose(20), Due.STATE);
         Due.due("loose BEYOND ahead of STATE", x.loose(41), Due.BEYOND);
         Due.due("z stays", x.count(9), 1);
+        x.image();
+        x.loose(19);
+        Due.due("DAY 9999 by draws", x.count(2), 9999);
+        x.restore();
         x.loose(18);
         Due.due("DAY 9998", x.count(2), 9998);
         x.days(1);
@@ -166,7 +170,7 @@ public final class SeeingTest {
         x.land(1, 0, 9);
         Due.due("over a hill", x.tower(0, 2), 9);
         Due.due("only thought", x.ofPlace(0, 0), 5);
-        x.land(1, 1, 3);
+        x.land(1, 1, 1);
         Due.due("what is MISSING hides nothing", x.tower(0, 2), 0);
         Due.due("to one that is MISSING", x.tower(0, 1), Due.NONE);
         Due.due("from one that is MISSING", x.tower(1, 0), 0);
@@ -191,6 +195,9 @@ public final class SeeingTest {
         Due.due("one pair", x.mutual(), 1);
         x.village(4);
         Due.due("two AT one PLACE don't see each other", x.mutual(), 2);
+        x.land(6, 0, 6);
+        Due.due("all see the hill, and it sees all", x.mutual(), 5);
+        x.land(6, 0, 5);
         x.land(3, 1, 1);
         Due.due("one that is MISSING sees, but is not seen", x.mutual(), 0);
         x.land(3, 1, 0);
@@ -274,6 +281,8 @@ public final class SeeingTest {
         Due.due("the lowest edge", x.blend(0, 2), Due.set(0, 1, 2, 4));
         Due.due("one is LEFT in both", x.blend(1, 3), Due.STATE);
         Due.due("they don't touch", x.blend(0, 3), Due.STATE);
+        Due.due("nor with one PLACE between", x.blend(2, 3), Due.STATE);
+        Due.due("nor the other way round", x.blend(3, 2), Due.STATE);
         Due.due("the ends of the row don't touch", x.blend(2, 4), Due.STATE);
         Due.due("one and the same", x.blend(1, 1), Due.BEYOND);
         Due.due("one 5", x.blend(5, 1), Due.BEYOND);
@@ -288,7 +297,8 @@ public final class SeeingTest {
         BottledViews x = new BottledViews();
         Due.due("one", x.thief(Due.set(5)), Due.set(4, 6));
         Due.due("two", x.thief(Due.set(5, 6)), 0);
-        x.land(5, 1, 3);
+        Due.due("the ends of the row", x.thief(Due.set(1)) | x.thief(Due.set(18)), Due.set(0, 2, 17, 19));
+        x.land(5, 1, 1);
         Due.due("were it there", x.thief(Due.set(5)), Due.set(4, 6));
         Due.due("all else as it is", x.thief(Due.set(4)), Due.set(3, 5, 6));
         BottledViews bowl = Due.bowl(10);
