@@ -240,6 +240,7 @@ public final class SeeingTest {
         Due.due("by two, the only set", x.cover(Due.set(1, 3, 5)), Due.set(2, 3));
         Due.due("by three", x.cover(Due.set(1, 3, 5, 12)), Due.set(2, 3, 4));
         Due.due("by none", x.cover(Due.set(1, 6)), Due.NONE);
+        Due.due("PLACE 0 by none", x.cover(Due.set(0)), Due.NONE);
         Due.due("all", x.cover(ALL), Due.NONE);
         x.open(2);
         Due.due("an OPEN one has nothing LEFT", x.cover(Due.set(1, 3, 5)), Due.set(0, 1, 3));

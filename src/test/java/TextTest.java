@@ -42,6 +42,10 @@ public final class TextTest {
         Due.due("a FAULT", Due.text(x, 0, "8+"), -12);
         Due.due("THE TAPE is empty behind a FAULT", x.count(6), 0);
         Due.due("the one ahead stays", x.law(0, 0, 0, 0), 7);
+        Due.due("an empty TAPE", x.text(0), -10);
+        Due.due("the one ahead stays behind an empty one", x.law(0, 0, 0, 0), 7);
+        Due.due("a FAULT at once", Due.text(x, 0, ")"), -10);
+        Due.due("the one ahead stays behind that, too", x.law(0, 0, 0, 0), 7);
         Due.due("another one", Due.text(x, 0, "9"), 1);
         Due.due("in its place", x.law(0, 0, 0, 0), 9);
         Due.due("a FAULT is no ERROR", x.told(1) + x.told(2) + x.told(3) + x.told(4) + x.told(5), 2);
