@@ -623,6 +623,10 @@ public final class BottledViews {
         return holds ? 1 : 0;
     }
 
+    private static int quotient(int one, int by) {
+        return by == 0 ? 0 : one / by;
+    }
+
     private static boolean isPlace(int place) {
         return isWithin(place, 0, PLACES - 1);
     }
@@ -892,7 +896,7 @@ public final class BottledViews {
                 case OLD:
                     return v + age;
                 case VINTAGE:
-                    return v + age + age / (m + 1);
+                    return v + age + quotient(age, m + 1);
                 default:
                     return v;
             }
@@ -1153,7 +1157,7 @@ public final class BottledViews {
                 case '*':
                     return one * other;
                 case '/':
-                    return other == 0 ? 0 : one / other;
+                    return quotient(one, other);
                 default:
                     return other == 0 ? 0 : one % other;
             }

@@ -511,6 +511,9 @@ public final class RestEdgesTest {
         BottledViews x = Edge.full();
         x.image();
         x.check();
+        for (int i = 0; i < 20; i++) {
+            x.tell(-1 - i);
+        }
         x.text(1);
         Due.text(x, 0, "1");
         x.seed(77);
@@ -521,7 +524,7 @@ public final class RestEdgesTest {
         for (int i = 0; i < 5; i++) {
             x.moves(i, 19 - i);
         }
-        for (int i = 0; i < 7; i++) {
+        for (int i = 0; i < 8; i++) {
             x.become(i, 63 - i);
             x.open(i);
         }

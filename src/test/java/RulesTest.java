@@ -7,6 +7,9 @@ import java.nio.file.Files;
 import java.nio.file.Path;
 import java.util.ArrayList;
 import java.util.List;
+import java.util.Map;
+import java.util.Set;
+import java.util.TreeMap;
 import java.util.TreeSet;
 import java.util.regex.Matcher;
 import java.util.regex.Pattern;
@@ -27,6 +30,7 @@ public final class RulesTest {
         classes();
         words();
         lengths();
+        depths();
         room();
         Due.end();
     }
@@ -114,6 +118,56 @@ public final class RulesTest {
                 Due.holds("short: " + lines.get(i).trim() + " " + (end - i + 1), end - i + 1 <= 60);
             }
         }
+    }
+
+    /** Rule 11: calls that are no recursion go at most eight deep; methods that call one another are counted once each. */
+    private static void depths() throws Exception {
+        Map<String, Set<String>> calls = callsByMethod(Files.readAllLines(Path.of(SOURCE)));
+        Due.holds("methods were found", calls.size() > FACE.length && calls.containsKey("readJoined"));
+        for (String name : calls.keySet()) {
+            int deep = depth(name, calls, new TreeSet<>());
+            Due.holds(name + " goes at most eight deep: " + deep, deep <= 8);
+        }
+    }
+
+    /** The longest row of calls in which no method comes twice. */
+    private static int depth(String name, Map<String, Set<String>> calls, Set<String> open) {
+        open.add(name);
+        int most = 0;
+        for (String next : calls.get(name)) {
+            if (!open.contains(next)) {
+                most = Math.max(most, depth(next, calls, open));
+            }
+        }
+        open.remove(name);
+        return 1 + most;
+    }
+
+    private static Map<String, Set<String>> callsByMethod(List<String> lines) {
+        Map<String, StringBuilder> bodies = new TreeMap<>();
+        Pattern head = Pattern.compile("^(?: {4}| {8})(?!if|while|for|switch)[A-Za-z].* (\\w+)\\(.*\\) \\{$");
+        StringBuilder body = new StringBuilder();
+        for (String line : lines) {
+            Matcher m = head.matcher(line);
+            if (m.find()) {
+                body = new StringBuilder();
+                Due.holds(m.group(1) + " is the name of one method", bodies.put(m.group(1), body) == null);
+            } else {
+                body.append(line).append('\n');
+            }
+        }
+        Map<String, Set<String>> calls = new TreeMap<>();
+        for (String name : bodies.keySet()) {
+            Set<String> called = new TreeSet<>();
+            Matcher m = Pattern.compile("\\b(\\w+)\\(").matcher(bodies.get(name));
+            while (m.find()) {
+                if (bodies.containsKey(m.group(1))) {
+                    called.add(m.group(1));
+                }
+            }
+            calls.put(name, called);
+        }
+        return calls;
     }
 
     /** All calls of a run live in one room, so calls make no objects at all. */

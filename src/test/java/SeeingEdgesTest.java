@@ -22,6 +22,7 @@ public final class SeeingEdgesTest {
         towerOverSeveral();
         mutualPairs();
         mutualOneSided();
+        mutualByLines();
         unseenFromNoneToAll();
         coverOfNoneAndOfAll();
         coverFewestThenLeast();
@@ -327,6 +328,9 @@ public final class SeeingEdgesTest {
         all.land(0, 1, 0);
         Due.due("0 sees 4 alone, 1 sees both", all.best(0), 1);
         Due.due("both", all.best(1), 2);
+        all.land(0, 1, 1);
+        Due.due("MISSING for one DAY is MISSING", all.best(0), 0);
+        Due.due("one alone", all.best(1), 1);
     }
 
     private static void bestAtTheEnds() {
@@ -434,6 +438,18 @@ public final class SeeingEdgesTest {
         Due.due("the other is MISSING", x.mutual(), 0);
         x.land(6, 1, 0);
         Due.due("both are there", x.mutual(), 1);
+    }
+
+    /** By the HEIGHTS as they are: on the line is hidden, just above it is not, from whichever side. */
+    private static void mutualByLines() {
+        int[][] rows = {{5, 4, 4, 1}, {4, 4, 5, 1}, {5, 5, 5, 0}, {5, 4, 3, 0}, {3, 4, 5, 0}, {5, 4, 5, 1}, {5, 5, 6, 1},
+            {6, 5, 5, 1}, {20, 10, 0, 0}, {20, 9, 0, 1}, {0, 9, 20, 1}, {20, 10, 1, 1}};
+        for (int[] r : rows) {
+            BottledViews x = Due.landOf(r[0], r[1], r[2]);
+            x.village(0);
+            x.village(2);
+            Due.due("over " + r[0] + ", " + r[1] + ", " + r[2], x.mutual(), r[3]);
+        }
     }
 
     /** UNSEEN: PLACES that no VILLAGE SEES (and at which none is). */
@@ -641,6 +657,12 @@ public final class SeeingEdgesTest {
         Due.due("2 hides nothing that is higher, but 5", x.thief(Due.set(5, 6)), Due.set(2, 3, 4));
         Due.due("6 alone", x.thief(Due.set(6)), ALL & ~Due.set(6));
         Due.due("it stays MISSING", x.count(3), 19);
+        for (int missing : new int[] {1, 99}) {
+            BottledViews flat = at();
+            flat.land(5, 1, missing);
+            Due.due("5 is told, MISSING for " + missing, flat.thief(Due.set(5)), Due.set(4, 6));
+            Due.due("5 is else, MISSING for " + missing, flat.thief(Due.set(4)), Due.set(3, 5, 6));
+        }
     }
 
     /** BOTH: SEEN by two VILLAGES from unlike sides. */

@@ -372,20 +372,14 @@ public final class TextEdgesTest {
         equal("0/h", 0, 0, 0);
     }
 
-    private static int worth(String signs, int h, int s) {
-        BottledViews x = new BottledViews();
-        Due.due("text " + signs, Due.text(x, 0, "(" + signs + ")*50+1"), 1);
-        return x.law(0, h, s, 0);
-    }
-
-    /** < = > are of ints, not of their differences, which may wrap. */
+    /** < = > are 1 or 0, and of ints, not of their differences, which may wrap. */
     private static void comparedAsInts() {
         int[] numbers = {LEAST, LEAST + 1, -1, 0, 1, MOST - 1, MOST};
         for (int a : numbers) {
             for (int b : numbers) {
-                Due.due(a + " < " + b, worth("h<s", a, b), a < b ? 51 : 1);
-                Due.due(a + " = " + b, worth("h=s", a, b), a == b ? 51 : 1);
-                Due.due(a + " > " + b, worth("h>s", a, b), a > b ? 51 : 1);
+                equal("(h<s)", a, b, a < b ? 1 : 0);
+                equal("(h=s)", a, b, a == b ? 1 : 0);
+                equal("(h>s)", a, b, a > b ? 1 : 0);
             }
         }
     }
